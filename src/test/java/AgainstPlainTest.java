@@ -96,7 +96,7 @@ public final class AgainstPlainTest {
                     taken[8 * y + x] = true;
                     things++;
                     row(s, "thing", kind(), x, y, often(80) ? n(3) : n(8), day());
-                    if (often(50)) {
+                    if (often(65)) {
                         row(s, " faces", n(4));
                     }
                     s.append(';');

@@ -20,6 +20,7 @@ public final class PromisesTest {
         crossings();
         barsOfTheTown();
         orderOfBars();
+        mostBars();
         goesAndPays();
         leaveAndSilence();
         firstDays();
@@ -441,6 +442,24 @@ public final class PromisesTest {
         checkBars(h, 0, 0, new int[][] {});
     }
 
+    /** Promises 15, 16, 27, 35: as many bars as there can be. */
+    private static void mostBars() {
+        FarTown f = told("size 4 3;wind 0 0;wind 1 2;wind 2 4;wind 3 6;", times(10, "wind 0 0 12;"));
+        for (int i = 0; i < 12; i++) {
+            f.add(0, 0, i % 4, i / 4, i % 8, 0, NO);
+        }
+        due("all of them", f.bars(0, 0, 0), 1320);
+        due("by the last rule", f.by(0, 0, 0, 9), 132);
+        int[] last = {11, 10, 9, 11, 11};
+        for (int i = 0; i < last.length; i++) {
+            due("the last one, " + i, f.bar(0, 0, 0, 1319, i), last[i]);
+        }
+        due("no further one", f.bar(0, 0, 0, 1320, 0), -10000);
+        due("all but one", f.fewest(0, 0, 0, false), 2047);
+        due("all but 0 go", f.goes(0, 0, 0), 4094);
+        due("none by none", f.moved(0, 0, 0), NO);
+    }
+
     /** Promises 17 and 18. */
     private static void goesAndPays() {
         FarTown f = told(TOWN, LAW, "far 0 1 3;harm;");
@@ -520,6 +539,7 @@ public final class PromisesTest {
         FarTown g = told("size 2 1;thing 0 0 0 0 0;thing 0 1 0 0 999;", "far 0 0 2;");
         due("the last day alone", g.days(0, 0, false), 1);
         due("the last day", g.days(0, 0, true), 999);
+        due("the first one is the last", g.first(0, 0, 0, 1), 999);
         FarTown h = told("size 8 1;thing 0 0 0 0 0;thing 0 7 0 0 3;grow 0 99;", "far 0 0 1;");
         due("grown together", h.first(0, 0, 0, 1), 396);
     }
@@ -562,6 +582,10 @@ public final class PromisesTest {
         due("spots in no town", f.spots(1, 0, 9, 2, NO), NO);
         due("spots on no day", f.spots(0, 0, -1, 2, NO), NO);
         due("spot of no law", f.spot(0, 3, 9, 2, NO, 0), NO);
+        due("spot of kind 6", f.spot(0, 1, 9, 6, NO, 0), NO);
+        due("spot of kind -1", f.spot(0, 1, 9, -1, NO, 0), NO);
+        due("spot facing 4", f.spot(0, 1, 9, 2, 4, 0), NO);
+        due("spot on no day", f.spot(0, 1, 1000, 2, NO, 0), NO);
     }
 
     /** Promises 23, 24, 25. */
@@ -609,6 +633,25 @@ public final class PromisesTest {
         g.wish(0, 0, NO);
         due("bare with its wall", g.plan(0, 0, 3, true, 1), 1);
         due("bare without", g.plan(0, 0, 2, true, 1), NO);
+        facedPlans();
+    }
+
+    private static void facedPlans() {
+        FarTown f = told("size 3 1;thing 1 2 0 0 5 faces 2;", "face 0 1 3;face 0 0 3;", "face 0 1 2;");
+        f.wish(0, 0, 0);
+        due("it would face it", f.plan(0, 0, 5, false, 0), NO);
+        due("it would face it from afar", f.plan(0, 1, 5, false, 0), 0);
+        due("nothing to face", f.plan(0, 0, 4, false, 0), 0);
+        f.forget(0);
+        f.wish(0, 0, 1);
+        due("it faces another way", f.plan(0, 0, 5, false, 0), 0);
+        f.wish(0, 0, NO);
+        due("the other does not face", f.plan(0, 0, 5, false, 1), 1);
+        f.forget(0);
+        f.wish(0, 0, 0);
+        f.wish(0, 0, 2);
+        due("they would face one another: the first", f.plan(0, 0, 5, true, 0), 1);
+        due("they look away: the second", f.plan(0, 0, 5, true, 1), 0);
     }
 
     /** Promise 26. */
@@ -729,6 +772,8 @@ public final class PromisesTest {
         due("no law", f.moved(0, 3, 0), NO);
         due("no town", f.moved(1, 0, 0), NO);
         due("no day", f.movedTo(0, 0, 1000, 0), NO);
+        due("to by no law", f.movedTo(0, 3, 0, 0), NO);
+        due("to in no town", f.movedTo(1, 0, 0, 0), NO);
         // No point is free: 1 must go to where 2 stands, and 2 to where 1 stood.
         FarTown g = told("size 3 1;thing 0 0 0 0 0;thing 0 1 0 0 0;thing 1 2 0 0 0;", "far 0 0 2;");
         due("two move", g.moved(0, 0, 0), 6);
@@ -771,6 +816,16 @@ public final class PromisesTest {
         due("the narrowest of both", g.room(0, 1, 1), 5);
         due("the other one is not there", g.room(0, 1, 0), 6);
         due("all the room", g.room(0, 2, 0), 12);
+        FarTown h = told("size 8 8;thing 0 0 0 0 0;thing 1 7 7 0 0;thing 0 7 1 0 0;grow 0 1;", "far 1 0 1;far 0 5 12;", "far 0 2 1;");
+        due("grown by 1, 6 apart", h.room(0, 0, 1), 4);
+        due("nobody of that kind", h.room(0, 1, 1), 12);
+        FarTown i = told("size 8 8;thing 0 0 0 0 0;thing 1 7 7 0 0;thing 1 7 0 0 0;thing 2 7 6 0 0;wind 0 1;", "wind 0 1 1;flow 0 1 1;");
+        due("9.9 apart downwind, the one beside lies downwind too", i.room(0, 0, 0), 6);
+        FarTown j = told("size 8 8;thing 0 0 0 0 0;thing 0 7 7 0 0;grow 0 99;", "far 0 0 1;");
+        due("not to 10", j.room(0, 0, 0), 8);
+        due("grown by 2, not to 10", j.room(0, 0, 99), 6);
+        due("grown by 8, not to 10", j.room(0, 0, 396), 0);
+        due("grown by 10", j.room(0, 0, 495), NO);
     }
 
     /** Promise 37. */
