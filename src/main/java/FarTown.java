@@ -1431,7 +1431,7 @@ public final class FarTown {
         }
     }
 
-    /** A town by a law on a day; its last four settings answer the questions that begin with "if". */
+    /** A town by a law on a day; extra, hours and without answer the questions that begin with "if". */
     private static final class Scene {
         final Body[] bodies;
         final int[] foeRow;
