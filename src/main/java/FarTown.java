@@ -132,13 +132,12 @@ public final class FarTown {
     }
 
     public int town(int at) {
-        now.setFault(0, NONE);
+        int length = now.takeTape();
         Town target = now.townSeat(seatFor(at, now.towns));
         if (target == null) {
             return REFUSED;
         }
-        boolean sound = reader.readTown(now.tape, now.length);
-        now.length = 0;
+        boolean sound = reader.readTown(now.tape, length);
         now.setFault(reader.fault, reader.place);
         if (!sound) {
             return NONE;
@@ -152,13 +151,12 @@ public final class FarTown {
     }
 
     public int law(int at) {
-        now.setFault(0, NONE);
+        int length = now.takeTape();
         Law target = now.lawSeat(seatFor(at, now.laws));
         if (target == null) {
             return REFUSED;
         }
-        boolean sound = reader.readLaw(now.tape, now.length);
-        now.length = 0;
+        boolean sound = reader.readLaw(now.tape, length);
         now.setFault(reader.fault, reader.place);
         if (!sound) {
             return NONE;
@@ -922,6 +920,14 @@ public final class FarTown {
                     length++;
                 }
             }
+        }
+
+        /** Takes the tape, whether it is then read or not: it is empty, without a fault so far; how long it was. */
+        int takeTape() {
+            int taken = length;
+            length = 0;
+            setFault(0, NONE);
+            return taken;
         }
 
         void setFault(int which, int where) {

@@ -41,6 +41,10 @@ public final class AgainstPlainTest {
             for (int i = 0; i < 12; i++) {
                 ask();
             }
+            if (often(20)) {
+                int v = dice.nextInt();
+                due("feed", f.feed(v, 0, -1, 7, 0x20202020), p.feed(v, 0, -1, 7, 0x20202020));
+            }
             if (often(30)) {
                 int k = n(5) - 1;
                 due("image " + k, f.image(k), p.image(k));
@@ -207,6 +211,7 @@ public final class AgainstPlainTest {
         } else {
             due("law of " + text, f.law(at), p.law(at));
         }
+        due("end 1 behind " + text, f.end(1), p.end(1));
         for (int i = -1; i < 3; i++) {
             due("fault " + i + " of " + text, f.fault(i), p.fault(i));
             due("count " + i, f.count(i), p.count(i));

@@ -190,8 +190,8 @@ final class PlainTown {
         return heads;
     }
 
-    private Town readTown() {
-        split(now.tape.toString());
+    private Town readTown(String text) {
+        split(text);
         faults.clear();
         Town t = new Town();
         List<Integer> heads = lines(TOWN_LINES, true);
@@ -289,8 +289,8 @@ final class PlainTown {
         return s;
     }
 
-    private Law readLaw() {
-        split(now.tape.toString());
+    private Law readLaw(String text) {
+        split(text);
         faults.clear();
         Law l = new Law();
         List<Integer> heads = lines(LAW_LINES, false);
@@ -316,9 +316,6 @@ final class PlainTown {
     }
 
     private void settle() {
-        now.tape.setLength(0);
-        now.fault = 0;
-        now.place = -1;
         for (int[] f : faults) {
             if (now.fault == 0 || f[0] < now.place || f[0] == now.place && f[1] < now.fault) {
                 now.fault = f[1];
@@ -350,12 +347,14 @@ final class PlainTown {
     }
 
     int town(int at) {
+        String text = now.tape.toString();
+        now.tape.setLength(0);
         now.fault = 0;
         now.place = -1;
         if (at == -1 ? now.towns.size() == 3 : at < 0 || at >= now.towns.size()) {
             return -2;
         }
-        Town t = readTown();
+        Town t = readTown(text);
         settle();
         if (t == null) {
             return -1;
@@ -369,12 +368,14 @@ final class PlainTown {
     }
 
     int law(int at) {
+        String text = now.tape.toString();
+        now.tape.setLength(0);
         now.fault = 0;
         now.place = -1;
         if (at == -1 ? now.laws.size() == 3 : at < 0 || at >= now.laws.size()) {
             return -2;
         }
-        Law l = readLaw();
+        Law l = readLaw(text);
         settle();
         if (l == null) {
             return -1;

@@ -12,6 +12,7 @@ public final class PromisesTest {
     public static void main(String[] args) {
         tape();
         townsAndLaws();
+        refused();
         townFaults();
         lawFaults();
         told();
@@ -93,10 +94,11 @@ public final class PromisesTest {
         due("a fourth town", f.town(NO), -2);
         due("no fault then", f.fault(0), 0);
         due("no place then", f.fault(1), NO);
-        due("nothing was read", f.end(8), 8);
+        due("the tape is taken all the same", f.end(1), NO);
         due("town 3", f.town(3), -2);
         due("towns", f.count(0), 3);
         f.wish(1, 0, NO);
+        Checks.tell(f, 0, "nonsense");
         due("a wrong text in the place of one", f.town(1), NO);
         due("its fault", f.fault(0), 1);
         due("the tape is empty after a fault", f.end(1), NO);
@@ -119,12 +121,57 @@ public final class PromisesTest {
         due("a fourth law", f.law(NO), -2);
         due("a law that is not", f.law(3), -2);
         due("no fault", f.fault(0), 0);
+        due("the tape is taken all the same", f.end(1), NO);
+        Checks.tell(f, 0, "!");
         due("a wrong law", f.law(2), NO);
         due("its fault", f.fault(0), 1);
         due("the law stays", f.ruled(2, 0), 1);
         due("law in the place of one", f.law(2), 2);
         due("it has no rules", f.ruled(2, 0), 0);
         due("laws", f.count(1), 3);
+    }
+
+    /** Promises 4, 5, 6: a town or law that is refused takes the tape, reads nothing, and has no fault. */
+    private static void refused() {
+        int[] wrong = {0, -2, 2, 3, Integer.MIN_VALUE, Integer.MAX_VALUE};
+        for (int at : wrong) {
+            refuse(new FarTown(), at);
+        }
+        FarTown f = new FarTown();
+        for (int i = 0; i < 3; i++) {
+            due("town " + i, Checks.town(f, "size 1 2;"), i);
+            due("law " + i, Checks.law(f, "far 0 0 1;"), i);
+        }
+        refuse(f, NO);
+        refuse(f, 3);
+        due("towns", f.count(0), 3);
+        due("laws", f.count(1), 3);
+        due("image", f.image(0), true);
+        due("feed ahead of the image", f.feed(1, 2, 3, 4, 5), 20);
+        due("image", f.image(1), true);
+        due("town 3", f.town(3), -2);
+        due("again", f.again(1), true);
+        due("the image's tape", f.end(20), 20);
+        due("again", f.again(0), true);
+        due("the image's tape", f.end(1), NO);
+    }
+
+    private static void refuse(FarTown f, int at) {
+        int towns = f.count(0);
+        int laws = f.count(1);
+        for (int way = 0; way < 2; way++) {
+            Checks.tell(f, 0, "!");
+            due("a text that is none", towns == 3 ? f.town(0) : f.town(NO), NO);
+            due("its fault", f.fault(0), 1);
+            Checks.tell(f, 0, way == 0 ? "size 3 3;" : "harm;");
+            due("refused at " + at, way == 0 ? f.town(at) : f.law(at), -2);
+            due("no fault at " + at, f.fault(0), 0);
+            due("no place at " + at, f.fault(1), NO);
+            due("feed behind it", f.feed(0, 0, 0, 0, 0), 20);
+            due("end behind it", f.end(0), 0);
+        }
+        due("towns behind it", f.count(0), towns);
+        due("laws behind it", f.count(1), laws);
     }
 
     private static void townFault(String text, int fault, int place) {
