@@ -21,6 +21,10 @@ final class Checks {
         return wrong;
     }
 
+    int made() {
+        return made;
+    }
+
     void finish() {
         System.out.println(made + " answers, " + wrong + " not as due");
         if (wrong != 0) {
