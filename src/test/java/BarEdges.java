@@ -163,6 +163,9 @@ final class BarEdges extends Edges {
                 s.due("5 apart by " + d, f.bar(0, 0, 0, 2, 3), d > 5 ? d - 5 : ODD);
                 s.due("9.9 apart by " + d, f.bar(0, 0, 0, 3, 3), d > 9 ? d - 9 : ODD);
             }
+            FarTown f = told("size 8 8;thing 0 6 5 0 0;thing 1 2 2 0 0;", "far 0 1 8;", "far 1 0 8;");
+            s.due("5 apart, the first one off the corner", f.bar(0, 0, 0, 0, 3), 3);
+            s.due("5 apart, the other one first", f.bar(0, 1, 0, 0, 3), 3);
             FarTown g = told("size 8 1;thing 0 0 0 0 0;thing 1 7 0 0 0;grow 0 1;grow 1 1;", "far 0 1 1;");
             s.due("more than d, by what both have grown", g.bar(0, 0, 999, 0, 3), 12);
             s.due("just so", g.bar(0, 0, 4, 0, 3), 2);
@@ -254,6 +257,9 @@ final class BarEdges extends Edges {
             FarTown g = told("size 3 1;thing 0 1 0 1 9;thing 1 0 0 2 10;thing 1 2 0 3 5;cost 0 99;", "far 0 1 2;harm;");
             s.due("by the first of them, who came later", g.pays(0, 0, 10, 2), 99);
             s.due("not himself", g.pays(0, 0, 10, 1), 0);
+            FarTown between = told("size 3 1;thing 0 0 0 1 1;thing 0 1 0 2 9;thing 0 2 0 3 5;cost 1 50;cost 2 7;", "far 0 0 3;");
+            s.due("once, though another one must between", between.pays(0, 0, 9, 2), 50);
+            s.due("the other one, too", between.pays(0, 0, 9, 3), 7);
             FarTown h = told("size 3 1;thing 0 1 0 1 9;thing 1 0 0 2 10;thing 1 2 0 3 5;cost 0 99;leave 2 1 0;", "far 0 1 2;harm;leave;");
             s.due("the first by which he must, not the first", h.pays(0, 0, 10, 1), 99);
             s.due("none by the one who gave leave", h.pays(0, 0, 10, 2), 0);

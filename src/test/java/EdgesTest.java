@@ -4,7 +4,7 @@ public final class EdgesTest {
         Sentences s = new Sentences();
         s.of("What it is", "the same town by another law.", () -> sameTown(s));
         s.of("What it is", "An object is used for at most 512 calls after it has been made; what later calls answer is free.", () -> calls512(s));
-        Edges[] all = {new TextEdges(s), new BarEdges(s), new GroundEdges(s), new PromiseEdges(s)};
+        Edges[] all = {new TextEdges(s), new BarEdges(s), new GroundEdges(s), new PromiseEdges(s), new CarryEdges(s)};
         for (Edges e : all) {
             e.play();
         }

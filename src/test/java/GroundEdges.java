@@ -91,6 +91,22 @@ final class GroundEdges extends Edges {
             s.due("wishes", f.about(0, 9), 3);
             s.due("of the other town", f.about(1, 9), 0);
             s.due("a wish in it", f.wish(1, 0, 3), 1);
+            for (int a = -1; a < 4; a++) {
+                for (int b = -1; b < 4; b++) {
+                    FarTown g = told("size 2 1;", "face 0 1 2;");
+                    s.due("a wish", g.wish(0, 0, a), 1);
+                    s.due("another one", g.wish(0, 1, b), 2);
+                    boolean turned = a == 0 && b == 2;
+                    plan(g, 0, 0, false, turned ? 1 : 0, turned ? 0 : 1);
+                }
+            }
+            FarTown h = told("size 2 1;thing 0 0 0 0 0 faces 0;", "face 0 1 2;");
+            s.due("facing a thing", h.wish(0, 1, 2), 1);
+            plan(h, 0, 0, false, NO);
+            plan(h, 0, 0, true, 0);
+            s.due("forget", h.forget(0), true);
+            s.due("not facing it", h.wish(0, 1, NO), 1);
+            plan(h, 0, 0, false, 1);
         });
         s.of(T, "PLAN on a DAY by a LAW: a POINT for each WISH, unlike ones, where nothing stands,", () -> {
             FarTown f = wishing(told("size 2 2;thing 0 0 0 0 5;", ""), 1, 1, 1);
@@ -132,6 +148,10 @@ final class GroundEdges extends Edges {
             plan(wishing(told("size 3 1;thing 1 2 0 0 0;", "far 2 1 2;"), 0, 2), 0, 0, false, 1, 0);
             plan(wishing(told("size 2 1;thing 1 1 0 0 9;", "flow 0 2 9;", ""), 0, 2), 0, 0, false, 0, 1);
             plan(wishing(told("size 2 1;slope down 1 up 0;", "flow 0 2 9;"), 0, 2), 0, 0, false, 1, 0);
+            // The second one alone has the first point, then the third one.
+            plan(wishing(told("size 3 1;slope down 1 up 0;", "flow 0 1 9;"), 0, 1, 2), 0, 0, false, 1, 0, 2);
+            plan(wishing(told("size 3 1;slope down 1 up 0;", "flow 0 2 9;flow 1 2 9;"), 0, 1, 2), 0, 0, false, 1, 2, 0);
+            plan(wishing(told("size 1 3;slope up 0 down 1;", "flow 0 1 9;flow 1 2 9;"), 0, 1, 2), 0, 0, false, 16, 8, 0);
         });
     }
 
@@ -233,6 +253,12 @@ final class GroundEdges extends Edges {
             }
             s.due("all", told(all.toString()).smells(0, 0, 1), 8);
             s.due("none the other way", told(all.toString()).smells(0, 1, 0), 0);
+            FarTown off = told("size 4 4;thing 0 1 3 0 0;thing 0 2 2 0 0;thing 0 1 1 0 0;wind 1 7;wind 2 6;");
+            s.due("one off the corner, aslant", off.smells(0, 0, 1), 2);
+            s.due("one off the corner, upright", off.smells(0, 0, 2), 2);
+            s.due("upright, the other way", off.smells(0, 2, 0), 0);
+            // At dx, dy -1, -1 the wind toward 6 has 1 along and 1 across, that toward 7 has 0 along.
+            s.due("from between", off.smells(0, 1, 2), 1);
             s.due("the first and the last", told(two + "wind 0 1;wind 7 7;wind 3 2;wind 4 4;").smells(0, 0, 1), 2);
         });
         s.of(T, "BESIDE: two of THINGS that are BARRED (by whichever RULES) by just one of two LAWS, how many.", () -> {
@@ -275,6 +301,9 @@ final class GroundEdges extends Edges {
             // Smaller where it is would do, but it must go elsewhere.
             moves(told("size 3 1;thing 0 0 0 0 0;thing 1 2 0 0 0;grow 0 5;", "far 0 1 2;"), 0, 5, 3, 2, 0);
             moves(told("size 4 1;thing 0 1 0 0 0;thing 1 3 0 0 0;grow 0 5;", "far 0 1 2;"), 0, 5, 1, 0);
+            moves(told("size 2 1;thing 0 1 0 0 0;thing 1 0 0 0 0;grow 0 5;", "far 0 1 1;"), 0, 5, 3, 0, 1);
+            moves(told("size 1 2;thing 0 0 1 0 0;thing 1 0 0 0 0;grow 0 5;", "far 0 1 1;"), 0, 5, 3, 0, 8);
+            moves(told("size 2 2;thing 0 1 1 0 0;thing 1 0 0 0 0;thing 2 1 0 0 0;thing 2 0 1 0 0;grow 0 5;", "far 0 1 1;"), 0, 5, 3, 0, 9);
         });
         s.of(U, "(they are there SINCE that DAY, as KIND and as they FACE; the lesser number as the first one),", () -> {
             FarTown f = told("size 5 1;thing 0 0 0 0 0;thing 1 1 0 0 0;grow 0 1;", "far 0 1 3;");

@@ -166,7 +166,50 @@ final class TextEdges extends Edges {
             crossing("4 3 7 3", 0);
             crossing("3 4 3 7", 0);
             crossing("5 6 6 5", 0);
+            allWalls();
         });
+    }
+
+    /** Every wall of a town of 4 by 3 against every way between two of its points. */
+    private void allWalls() {
+        for (int from = 0; from < 12; from++) {
+            for (int to = 0; to < 12; to++) {
+                if (from == to) {
+                    continue;
+                }
+                FarTown f = told("size 4 3;wall " + from % 4 + " " + from / 4 + " " + to % 4 + " " + to / 4 + " 0;");
+                for (int i = 0; i < 12; i++) {
+                    f.add(0, 0, i % 4, i / 4, 0, 0, NO);
+                }
+                for (int a = 0; a < 12; a++) {
+                    for (int b = 0; b < 12; b++) {
+                        String call = "wall " + from + " to " + to + ", way " + a + " to " + b;
+                        s.due(call, f.between(0, a, b, 0), a == b ? NO : share(from, to, a, b) ? 1 : 0);
+                    }
+                }
+            }
+        }
+    }
+
+    /** Whether two lines among the points 4 * y + x have a point in common: where their straights meet, as a fraction. */
+    private static boolean share(int a, int b, int c, int d) {
+        int rx = b % 4 - a % 4;
+        int ry = b / 4 - a / 4;
+        int sx = d % 4 - c % 4;
+        int sy = d / 4 - c / 4;
+        int qx = c % 4 - a % 4;
+        int qy = c / 4 - a / 4;
+        int cross = rx * sy - ry * sx;
+        int t = qx * sy - qy * sx;
+        int u = qx * ry - qy * rx;
+        if (cross != 0) {
+            int sign = cross > 0 ? 1 : -1;
+            return t * sign >= 0 && t * sign <= cross * sign && u * sign >= 0 && u * sign <= cross * sign;
+        }
+        // On one straight the greater of the lesser ends is not behind the lesser of the greater ends, by x, then y.
+        int one = Math.max(Math.min(a % 4 * 4 + a / 4, b % 4 * 4 + b / 4), Math.min(c % 4 * 4 + c / 4, d % 4 * 4 + d / 4));
+        int two = Math.min(Math.max(a % 4 * 4 + a / 4, b % 4 * 4 + b / 4), Math.max(c % 4 * 4 + c / 4, d % 4 * 4 + d / 4));
+        return u == 0 && one <= two;
     }
 
     private void winds() {
@@ -219,6 +262,21 @@ final class TextEdges extends Edges {
         });
     }
 
+    /** A line with another letter, or none, in any one place of its first word is a fault at that word. */
+    private void otherLetters(boolean town, String head, String line) {
+        int end = (line + ";").replace(';', ' ').indexOf(' ');
+        for (int i = 0; i < end; i++) {
+            for (String letter : new String[] {"q", ""}) {
+                String text = head + line.substring(0, i) + letter + line.substring(i + 1);
+                if (town) {
+                    townFault(text, 1, head.length());
+                } else {
+                    lawFault(text, 1, head.length());
+                }
+            }
+        }
+    }
+
     private void tokens() {
         s.of(T, "THE TAPE has at most 500 bytes.", () -> {
             String town = "size 8 8;";
@@ -253,6 +311,18 @@ final class TextEdges extends Edges {
             townFault("size 1 1;z 0;", 1, 9);
             townFault("sizea 1 1;", 1, 0);
             townFault("sizez 1 1;", 1, 0);
+            for (String line : new String[] {"thing 0 0 0 0 0;", "wall 0 0 1 1 0;", "fence 0 0 1 1;", "wind 0 0;", "slope up 0 up 0;",
+                "leave 0 0 0;", "object 0 1 0;", "cost 0 1;", "grow 0 1;"}) {
+                otherLetters(true, TWO, line);
+            }
+            otherLetters(true, "", "size 1 1;");
+            for (String rule : new String[] {"far 0 0 1;", "wind 0 0 1;", "flow 0 0 1;", "face 0 0 1;", "later;", "harm;", "leave;", "silent 1;"}) {
+                otherLetters(false, "", rule);
+            }
+            townFault("size 2 2;thing 0 0 1 0 0 baces 0;", 1, 25);
+            townFault("size 2 2;slope op 0 up 0;", 1, 15);
+            townFault("size 2 2;slope up 0 sown 0;", 1, 20);
+            lawFault("far 0 0 1 ball;", 1, 10);
             townSound("size 1 01;");
             townSound("size 001 0001;");
             townFault("size 00001 1;", 1, 5);
@@ -328,6 +398,9 @@ final class TextEdges extends Edges {
             townFault(TWO + "slope up 0 left 0 ;", 1, TWO.length() + 11);
             townFault(TWO + "slope left 0 up 0 ;", 1, TWO.length() + 6);
             townFault(TWO + "slope up up 0 0 ;", 1, TWO.length() + 9);
+            townFault(TWO + "slope wind 0 0;", 1, TWO.length() + 6);
+            townFault(TWO + "slope up 0 wind 0 0;", 1, TWO.length() + 11);
+            townFault(TWO + "slope;", 1, TWO.length() + 5);
         });
         s.of(T, "('leave' | 'object') NUMBER NUMBER NUMBER | ('cost' | 'grow') NUMBER NUMBER) ';'", () -> {
             form(true, TWO, "leave 0 0 0 ;");
@@ -457,6 +530,14 @@ final class TextEdges extends Edges {
             townFault("size 1 1;wind 0 0", 1, 17);
             townFault("size 1 1;wind0 0;thing0 0 0 0 0 fac", 1, 32);
             lawFault("far 0 0 00012;", 1, 8);
+            lawFault("far 0 0 1 00000", 1, 10);
+            lawFault("far 0 0 1 wall 00000", 1, 15);
+            lawFault("later 00000", 1, 6);
+            lawFault("silent 1 00000", 1, 9);
+            lawFault("00000", 1, 0);
+            townFault("size 1 1 00000", 1, 9);
+            townFault("size 1 1;wind 0 0 00000", 1, 18);
+            townFault("size 1 1;thing 0 0 0 0 0 00000 0;", 1, 25);
             lawFault("far 0 0 12;" + (char) 127, 1, 11);
         });
         s.of(T, "If there is none, the first by place, of one place the least:", () -> {
