@@ -166,39 +166,42 @@ final class TextEdges extends Edges {
             crossing("4 3 7 3", 0);
             crossing("3 4 3 7", 0);
             crossing("5 6 6 5", 0);
-            allWalls();
+            allWalls(4, 3);
+            allWalls(3, 4);
+            allWalls(6, 2);
+            allWalls(2, 6);
         });
     }
 
-    /** Every wall of a town of 4 by 3 against every way between two of its points. */
-    private void allWalls() {
+    /** Every wall of a town against every way between two of its twelve points. */
+    private void allWalls(int wide, int high) {
         for (int from = 0; from < 12; from++) {
             for (int to = 0; to < 12; to++) {
                 if (from == to) {
                     continue;
                 }
-                FarTown f = told("size 4 3;wall " + from % 4 + " " + from / 4 + " " + to % 4 + " " + to / 4 + " 0;");
+                FarTown f = told("size " + wide + " " + high + ";wall " + from % wide + " " + from / wide + " " + to % wide + " " + to / wide + " 0;");
                 for (int i = 0; i < 12; i++) {
-                    f.add(0, 0, i % 4, i / 4, 0, 0, NO);
+                    f.add(0, 0, i % wide, i / wide, 0, 0, NO);
                 }
                 for (int a = 0; a < 12; a++) {
                     for (int b = 0; b < 12; b++) {
-                        String call = "wall " + from + " to " + to + ", way " + a + " to " + b;
-                        s.due(call, f.between(0, a, b, 0), a == b ? NO : share(from, to, a, b) ? 1 : 0);
+                        String call = wide + " wide, wall " + from + " to " + to + ", way " + a + " to " + b;
+                        s.due(call, f.between(0, a, b, 0), a == b ? NO : share(wide, from, to, a, b) ? 1 : 0);
                     }
                 }
             }
         }
     }
 
-    /** Whether two lines among the points 4 * y + x have a point in common: where their straights meet, as a fraction. */
-    private static boolean share(int a, int b, int c, int d) {
-        int rx = b % 4 - a % 4;
-        int ry = b / 4 - a / 4;
-        int sx = d % 4 - c % 4;
-        int sy = d / 4 - c / 4;
-        int qx = c % 4 - a % 4;
-        int qy = c / 4 - a / 4;
+    /** Whether two lines among the points wide * y + x have a point in common: where their straights meet, as a fraction. */
+    private static boolean share(int wide, int a, int b, int c, int d) {
+        int rx = b % wide - a % wide;
+        int ry = b / wide - a / wide;
+        int sx = d % wide - c % wide;
+        int sy = d / wide - c / wide;
+        int qx = c % wide - a % wide;
+        int qy = c / wide - a / wide;
         int cross = rx * sy - ry * sx;
         int t = qx * sy - qy * sx;
         int u = qx * ry - qy * rx;
@@ -206,10 +209,8 @@ final class TextEdges extends Edges {
             int sign = cross > 0 ? 1 : -1;
             return t * sign >= 0 && t * sign <= cross * sign && u * sign >= 0 && u * sign <= cross * sign;
         }
-        // On one straight the greater of the lesser ends is not behind the lesser of the greater ends, by x, then y.
-        int one = Math.max(Math.min(a % 4 * 4 + a / 4, b % 4 * 4 + b / 4), Math.min(c % 4 * 4 + c / 4, d % 4 * 4 + d / 4));
-        int two = Math.min(Math.max(a % 4 * 4 + a / 4, b % 4 * 4 + b / 4), Math.max(c % 4 * 4 + c / 4, d % 4 * 4 + d / 4));
-        return u == 0 && one <= two;
+        // On one straight points lie by their numbers: the later beginning is then not behind the earlier end.
+        return u == 0 && Math.max(Math.min(a, b), Math.min(c, d)) <= Math.min(Math.max(a, b), Math.max(c, d));
     }
 
     private void winds() {
