@@ -38,8 +38,16 @@ public final class LanguageTest {
         while (m.find()) {
             int lines = m.group().trim().split("\n").length;
             c.due("lines of " + m.group().trim().split("\n")[0], lines <= 60, true);
+            c.due("objects made by " + m.group().trim().split("\n")[0], mayMake(m.group().trim()) || times(m.group(), "\\bnew\\b") == 0, true);
         }
+        c.due("classes, twelve at most", times(code, "\\bclass \\w+ \\{") <= 12, true);
         c.finish();
+    }
+
+    /** A run's room is one for all its calls, so objects are made by constructors alone, and by image() once for each k. */
+    private static boolean mayMake(String method) {
+        String head = method.split("\\(")[0];
+        return head.matches("public boolean image|public FarTown|[A-Z]\\w+");
     }
 
     private static int times(String text, String pattern) {
